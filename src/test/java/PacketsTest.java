@@ -1,0 +1,216 @@
+/** Promises 6, 7, 11 and 14: packets come, wait in line, and are dropped. */
+public final class PacketsTest {
+    public static void main(String[] args) {
+        putFillsALeaf();
+        putOpensTheWayToTheRoot();
+        putRefuses();
+        putRefusesThe2001stPacket();
+        putAllStopsAtTheLimit();
+        putAllStopsAt2000();
+        putAllEdges();
+        putAllRefuses();
+        clearDropsAllUnderAClass();
+        clearKeepsTheTags();
+        clearRefuses();
+        packetsAreFirstInFirstOut();
+        packetRefuses();
+        Check.end();
+    }
+
+    /** 1 holds the leaves 2 (with a limit of 2) and 3 (with two packets). */
+    private static TurnTree small() {
+        TurnTree t = new TurnTree();
+        t.add(0, 3, 10);
+        t.add(1, 2, 2);
+        t.add(1, 5, 9);
+        t.putAll(3, 30, 20, 2);
+        return t;
+    }
+
+    /** 2000 packets: the leaf 1 is full, the leaf 2 is not. */
+    private static TurnTree crowded() {
+        TurnTree t = new TurnTree();
+        t.add(0, 1, 1000);
+        t.add(0, 1, 2000);
+        t.putAll(1, 0, 1, 500);
+        t.putAll(1, 500, 1, 500);
+        t.putAll(2, 0, 2000, 500);
+        t.putAll(2, 500, 2000, 500);
+        return t;
+    }
+
+    private static void putFillsALeaf() {
+        TurnTree t = small();
+        Check.due("1st", t.put(2, -5, 1), true);
+        Check.due("2nd", t.put(2, Integer.MIN_VALUE, 2000), true);
+        Check.due("3rd", t.put(2, 7, 10), false);
+        Check.due("4th", t.put(2, 8, 10), false);
+        Check.due("packets", t.about(2, 4), 2);
+        Check.due("packets under 1", t.about(1, 4), 4);
+        Check.due("bytes", t.sum(2, 3), 2001);
+        Check.due("bytes under the root", t.sum(0, 3), 2041);
+        Check.due("packets of all", t.count(1), 4);
+        Check.due("dropped", t.count(4), 2);
+        Check.due("packet(2, 0)", t.packet(2, 0), -5);
+        Check.due("packet(2, 1)", t.packet(2, 1), Integer.MIN_VALUE);
+        t.turns(4);
+        Check.due("room again", t.put(2, 9, 9), true);
+    }
+
+    private static void putOpensTheWayToTheRoot() {
+        TurnTree t = new TurnTree();
+        t.add(0, 1, 5);
+        t.add(1, 1, 5);
+        t.add(0, 1, 5);
+        t.putAll(3, 1, 10, 5);
+        t.turns(3);
+        Check.due("not open yet", t.about(1, 5) + t.about(2, 5), 0);
+        t.put(2, 1, 1);
+        Check.due("open", t.about(1, 5) + t.about(2, 5), 2);
+        Check.due("tag of 1 becomes the time", t.sum(1, 0), 20 * 65536);
+        Check.due("tag of 2 stays", t.sum(2, 0), 0);
+    }
+
+    private static void putRefuses() {
+        Check.refused("put(-1, ..)", Check.INDEX, PacketsTest::small, t -> t.put(-1, 1, 1));
+        Check.refused("put(4, ..)", Check.INDEX, PacketsTest::small, t -> t.put(4, 1, 0));
+        Check.refused("put(64, ..)", Check.INDEX, PacketsTest::small, t -> t.put(64, 1, 1));
+        Check.refused("put in the root", Check.STATE, PacketsTest::small, t -> t.put(0, 1, 0));
+        Check.refused("put in a lone root", Check.STATE, TurnTree::new, t -> t.put(0, 1, 1));
+        Check.refused("put in no leaf", Check.STATE, PacketsTest::small, t -> t.put(1, 1, 2001));
+        Check.refused("put length 0", Check.ARGUMENT, PacketsTest::small, t -> t.put(2, 1, 0));
+        Check.refused("put length -1", Check.ARGUMENT, PacketsTest::small, t -> t.put(2, 1, -1));
+        Check.refused("put length 2001", Check.ARGUMENT, PacketsTest::small, t -> t.put(2, 1, 2001));
+    }
+
+    private static void putRefusesThe2001stPacket() {
+        Check.due("packets", crowded().count(1), 2000);
+        Check.refused("2001st", Check.UNSUPPORTED, PacketsTest::crowded, t -> t.put(2, 1, 1));
+        Check.refused("2001st, full leaf", Check.UNSUPPORTED, PacketsTest::crowded, t -> t.put(1, 1, 1));
+        Check.refused("2001st, no length", Check.ARGUMENT, PacketsTest::crowded, t -> t.put(2, 1, 0));
+        Check.refused("2001st, no leaf", Check.STATE, PacketsTest::crowded, t -> t.put(0, 1, 1));
+        TurnTree t = crowded();
+        t.turn();
+        Check.due("the 2000th again", t.put(2, 1, 1), true);
+    }
+
+    private static void putAllStopsAtTheLimit() {
+        TurnTree t = small();
+        Check.due("putAll", t.putAll(2, Integer.MAX_VALUE, 3, 5), 2);
+        Check.due("only one is dropped", t.count(4), 1);
+        Check.due("packet(2, 0)", t.packet(2, 0), Integer.MAX_VALUE);
+        Check.due("the ids wrap", t.packet(2, 1), Integer.MIN_VALUE);
+        Check.due("bytes", t.sum(2, 3), 6);
+        Check.due("putAll in a full leaf", t.putAll(2, 1, 1, 500), 0);
+        Check.due("one more is dropped", t.count(4), 2);
+        Check.due("just as many as there is room for", t.putAll(3, 1, 1, 7), 7);
+        Check.due("none is dropped", t.count(4), 2);
+        Check.due("open leaves", t.count(2), 2);
+    }
+
+    private static void putAllStopsAt2000() {
+        TurnTree t = crowded();
+        Check.due("putAll at 2000", t.putAll(2, 1, 1, 1), 0);
+        Check.due("putAll in a full leaf at 2000", t.putAll(1, 1, 1, 3), 0);
+        Check.due("none is dropped", t.count(4), 0);
+        t.clear(1);
+        t.putAll(1, 0, 1, 500);
+        t.putAll(1, 0, 1, 497);
+        Check.due("up to 2000", t.putAll(2, 50, 1, 4), 3);
+        Check.due("only clear() has dropped", t.count(4), 1000);
+        Check.due("packets", t.count(1), 2000);
+    }
+
+    private static void putAllEdges() {
+        TurnTree t = small();
+        Check.due("n = 0", t.putAll(2, 1, 1, 0), 0);
+        Check.due("closed", t.about(2, 5), 0);
+        t.putAll(2, 1, 1, 2);
+        Check.due("n = 0 in a full leaf", t.putAll(2, 1, 1, 0), 0);
+        Check.due("none is dropped", t.count(4), 0);
+        t.add(0, 1, 2000);
+        Check.due("n = 500", t.putAll(4, 1, 2000, 500), 500);
+        Check.due("bytes", t.sum(4, 3), 1000000);
+        Check.due("the last id", t.packet(4, 499), 500);
+    }
+
+    private static void putAllRefuses() {
+        Check.refused("putAll(-1, ..)", Check.INDEX, PacketsTest::small, t -> t.putAll(-1, 1, 1, 1));
+        Check.refused("putAll(4, ..)", Check.INDEX, PacketsTest::small, t -> t.putAll(4, 1, 0, 501));
+        Check.refused("putAll in the root", Check.STATE, PacketsTest::small, t -> t.putAll(0, 1, 1, 1));
+        Check.refused("putAll in no leaf", Check.STATE, PacketsTest::small, t -> t.putAll(1, 1, 0, -1));
+        Check.refused("putAll length 0", Check.ARGUMENT, PacketsTest::small, t -> t.putAll(2, 1, 0, 0));
+        Check.refused("putAll length 2001", Check.ARGUMENT, PacketsTest::small, t -> t.putAll(2, 1, 2001, 1));
+        Check.refused("putAll n = -1", Check.ARGUMENT, PacketsTest::small, t -> t.putAll(2, 1, 1, -1));
+        Check.refused("putAll n = 501", Check.ARGUMENT, PacketsTest::crowded, t -> t.putAll(2, 1, 1, 501));
+    }
+
+    private static void clearDropsAllUnderAClass() {
+        TurnTree t = small();
+        t.put(2, 5, 5);
+        t.put(2, 6, 6);
+        t.put(2, 7, 7);
+        t.add(0, 1, 1);
+        t.put(4, 1, 100);
+        Check.due("clear(1)", t.clear(1), 4);
+        Check.due("packets", t.count(1), 1);
+        Check.due("dropped", t.count(4), 5);
+        Check.due("1 is closed", t.about(1, 5), 0);
+        Check.due("the root is open", t.about(0, 5), 1);
+        Check.due("bytes", t.sum(0, 3), 100);
+        Check.due("clear(1) again", t.clear(1), 0);
+        Check.due("put again", t.put(2, 8, 8), true);
+        Check.due("clear a leaf", t.clear(2), 1);
+        Check.due("clear the root", t.clear(0), 1);
+        Check.due("the root is closed", t.about(0, 5), 0);
+        Check.due("dropped", t.count(4), 7);
+        Check.due("turn", t.turn(), false);
+        t.hold(3, 5);
+        t.put(3, 1, 1);
+        Check.due("clear a held leaf", t.clear(0), 1);
+        Check.due("still held", t.about(3, 6), 5);
+    }
+
+    private static void clearKeepsTheTags() {
+        TurnTree t = small();
+        t.turn();
+        t.clear(0);
+        Check.due("class 3", View.ofClass(t, 3),
+                "about 1 5 0 0 0 0 0 9 sums 262144 0 20 0 children packets");
+        Check.due("class 1", View.ofClass(t, 1),
+                "about 0 3 2 2 0 0 0 10 sums 436906 0 20 0 children 2 3 packets");
+        Check.due("all", View.ofAll(t), "counts 4 0 0 1 1 latest 3 30 20");
+    }
+
+    private static void clearRefuses() {
+        Check.refused("clear(-1)", Check.INDEX, PacketsTest::small, t -> t.clear(-1));
+        Check.refused("clear(4)", Check.INDEX, PacketsTest::small, t -> t.clear(4));
+        Check.refused("clear(64)", Check.INDEX, PacketsTest::small, t -> t.clear(64));
+    }
+
+    private static void packetsAreFirstInFirstOut() {
+        TurnTree t = small();
+        t.put(3, 99, 1);
+        t.turn();
+        Check.due("latest(1)", t.latest(1), 30);
+        Check.due("packet(3, 0)", t.packet(3, 0), 31);
+        Check.due("packet(3, 1)", t.packet(3, 1), 99);
+        t.put(3, -1, 1);
+        Check.due("packet(3, 2)", t.packet(3, 2), -1);
+        t.turns(2);
+        Check.due("latest(1)", t.latest(1), 99);
+        Check.due("latest(2)", t.latest(2), 1);
+        Check.due("packet(3, 0)", t.packet(3, 0), -1);
+    }
+
+    private static void packetRefuses() {
+        Check.refused("packet(-1, 0)", Check.INDEX, PacketsTest::small, t -> t.packet(-1, 0));
+        Check.refused("packet(4, 0)", Check.INDEX, PacketsTest::small, t -> t.packet(4, 0));
+        Check.refused("packet(64, 0)", Check.INDEX, PacketsTest::small, t -> t.packet(64, 0));
+        Check.refused("packet(3, -1)", Check.INDEX, PacketsTest::small, t -> t.packet(3, -1));
+        Check.refused("packet(3, 2)", Check.INDEX, PacketsTest::small, t -> t.packet(3, 2));
+        Check.refused("packet(2, 0)", Check.INDEX, PacketsTest::small, t -> t.packet(2, 0));
+        Check.refused("packet of no leaf", Check.INDEX, PacketsTest::small, t -> t.packet(1, 0));
+        Check.refused("packet of the root", Check.INDEX, PacketsTest::small, t -> t.packet(0, 0));
+    }
+}

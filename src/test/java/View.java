@@ -1,0 +1,45 @@
+/** All that an object tells, as a text. */
+final class View {
+    private static final int MOST_PACKETS_ASKED = 50;
+
+    private View() {
+    }
+
+    static String ofAll(TurnTree tree) {
+        StringBuilder text = new StringBuilder("counts");
+        for (int what = 0; what <= 4; what++) {
+            text.append(' ').append(tree.count(what));
+        }
+        text.append(" latest");
+        for (int what = 0; what <= 2; what++) {
+            text.append(' ').append(tree.latest(what));
+        }
+        return text.toString();
+    }
+
+    static String ofClass(TurnTree tree, int c) {
+        StringBuilder text = new StringBuilder();
+        try {
+            text.append("about");
+            for (int what = 0; what <= 7; what++) {
+                text.append(' ').append(tree.about(c, what));
+            }
+        } catch (IndexOutOfBoundsException e) {
+            return "no class";
+        }
+        text.append(" sums");
+        for (int what = 0; what <= 3; what++) {
+            text.append(' ').append(tree.sum(c, what));
+        }
+        text.append(" children");
+        for (int k = 0; k < tree.about(c, 3); k++) {
+            text.append(' ').append(tree.child(c, k));
+        }
+        text.append(" packets");
+        int packets = tree.about(c, 3) == 0 ? tree.about(c, 4) : 0;
+        for (int k = 0; k < Math.min(packets, MOST_PACKETS_ASKED); k++) {
+            text.append(' ').append(tree.packet(c, k));
+        }
+        return text.toString();
+    }
+}
