@@ -13,6 +13,7 @@ public final class PacketsTest {
         clearKeepsTheTags();
         clearRefuses();
         packetsAreFirstInFirstOut();
+        packetsComeAfterOthersHaveGone();
         packetRefuses();
         Check.end();
     }
@@ -201,6 +202,34 @@ public final class PacketsTest {
         Check.due("latest(1)", t.latest(1), 99);
         Check.due("latest(2)", t.latest(2), 1);
         Check.due("packet(3, 0)", t.packet(3, 0), -1);
+    }
+
+    /** What is sent or cleared leaves no trace in the lines that are filled afterwards. */
+    private static void packetsComeAfterOthersHaveGone() {
+        TurnTree t = new TurnTree();
+        t.add(0, 1, 9);
+        t.add(0, 1, 9);
+        t.putAll(1, 10, 1, 4);
+        t.putAll(2, 20, 1, 4);
+        t.turns(3);
+        t.clear(1);
+        t.turn();
+        for (int i = 0; i < 5; i++) {
+            t.put(1, 30 + i, 2);
+            t.put(2, 40 + i, 3);
+        }
+        t.clear(2);
+        t.putAll(2, 50, 4, 3);
+        Check.due("class 1", View.ofClass(t, 1),
+                "about 0 1 0 0 5 1 0 9 sums 131072 0 2 10 children packets 30 31 32 33 34");
+        Check.due("class 2", View.ofClass(t, 2),
+                "about 0 1 0 0 3 1 0 9 sums 131072 0 2 12 children packets 50 51 52");
+        Check.due("turns", t.turns(20), 8);
+        Check.due("bytes", t.sum(0, 2), 4 + 10 + 12);
+        t.put(1, 60, 1);
+        Check.due("packet(1, 0)", t.packet(1, 0), 60);
+        Check.due("packets", t.count(1), 1);
+        Check.due("turns", t.turns(20), 1);
     }
 
     private static void packetRefuses() {

@@ -12,6 +12,7 @@ public final class TurnsTest {
         turnGoesDownADeepTree();
         openingSetsTheTagToTheTime();
         openingKeepsAGreaterTag();
+        openingKeepsAnEqualTagAndItsRest();
         turnsStopsWhenNoneIsOpen();
         turnsRefuses();
         latestTellsTheLatestTurn();
@@ -173,15 +174,17 @@ public final class TurnsTest {
         t.put(2, 1, 1);
         Check.due("tag", t.sum(2, 0), 1000 * UNIT / 7);
         Check.due("rest", t.about(2, 2), 1000 * UNIT % 7);
-        TurnTree same = twoLeaves(1, 3);
-        same.put(2, 1, 1);
-        same.turn();
-        same.put(2, 1, 1);
-        same.turn();
-        Check.due("time before it", same.sum(0, 1), UNIT / 3);
-        same.weight(2, 1000);
-        same.put(2, 1, 1);
-        Check.due("tag stays", same.sum(2, 0), 2 * UNIT / 3);
+    }
+
+    private static void openingKeepsAnEqualTagAndItsRest() {
+        TurnTree t = twoLeaves(7, 7);
+        t.put(1, 1, 1);
+        t.putAll(2, 1, 1, 3);
+        t.turns(3);
+        Check.due("time", t.sum(0, 1), UNIT / 7);
+        t.put(1, 1, 1);
+        Check.due("tag", t.sum(1, 0), UNIT / 7);
+        Check.due("rest", t.about(1, 2), UNIT % 7);
     }
 
     private static void turnsStopsWhenNoneIsOpen() {
