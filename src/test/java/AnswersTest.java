@@ -2,13 +2,9 @@
 public final class AnswersTest {
     public static void main(String[] args) {
         childrenAreInOrder();
-        childRefuses();
         sumsOfAClass();
-        sumRefuses();
         aboutAClass();
-        aboutRefuses();
         countsOfAll();
-        countRefuses();
         askingChangesNothing();
         Check.end();
     }
@@ -48,16 +44,6 @@ public final class AnswersTest {
         Check.due("the last one", t.child(0, 1), 1);
     }
 
-    private static void childRefuses() {
-        Check.refused("child(-1, 0)", Check.INDEX, AnswersTest::running, t -> t.child(-1, 0));
-        Check.refused("child(5, 0)", Check.INDEX, AnswersTest::running, t -> t.child(5, 0));
-        Check.refused("child(64, 0)", Check.INDEX, AnswersTest::running, t -> t.child(64, 0));
-        Check.refused("child(0, -1)", Check.INDEX, AnswersTest::running, t -> t.child(0, -1));
-        Check.refused("child(0, 2)", Check.INDEX, AnswersTest::running, t -> t.child(0, 2));
-        Check.refused("child of a leaf", Check.INDEX, AnswersTest::running, t -> t.child(4, 0));
-        Check.refused("child of a lone root", Check.INDEX, TurnTree::new, t -> t.child(0, 0));
-    }
-
     private static void dueSums(TurnTree t, int c, long tag, long time, long share, long bytes) {
         Check.due("sum(" + c + ", 0)", t.sum(c, 0), tag);
         Check.due("sum(" + c + ", 1)", t.sum(c, 1), time);
@@ -73,14 +59,6 @@ public final class AnswersTest {
         dueSums(t, 2, 936228, 0, 100, 300);
         dueSums(t, 3, 393216, 0, 30, 10);
         dueSums(t, 4, 3276800, 0, 50, 150);
-    }
-
-    private static void sumRefuses() {
-        Check.refused("sum(-1, 0)", Check.INDEX, AnswersTest::running, t -> t.sum(-1, 0));
-        Check.refused("sum(5, 9)", Check.INDEX, AnswersTest::running, t -> t.sum(5, 9));
-        Check.refused("sum(64, 0)", Check.INDEX, AnswersTest::running, t -> t.sum(64, 0));
-        Check.refused("sum(0, -1)", Check.ARGUMENT, AnswersTest::running, t -> t.sum(0, -1));
-        Check.refused("sum(0, 4)", Check.ARGUMENT, AnswersTest::running, t -> t.sum(0, 4));
     }
 
     private static void dueAbout(TurnTree t, int c, int... answers) {
@@ -101,14 +79,6 @@ public final class AnswersTest {
         dueAbout(t, 1, 0, 3, 1, 2, 4, 0, 0, 10);
     }
 
-    private static void aboutRefuses() {
-        Check.refused("about(-1, 0)", Check.INDEX, AnswersTest::running, t -> t.about(-1, 0));
-        Check.refused("about(5, 9)", Check.INDEX, AnswersTest::running, t -> t.about(5, 9));
-        Check.refused("about(64, 0)", Check.INDEX, AnswersTest::running, t -> t.about(64, 0));
-        Check.refused("about(0, -1)", Check.ARGUMENT, AnswersTest::running, t -> t.about(0, -1));
-        Check.refused("about(0, 8)", Check.ARGUMENT, AnswersTest::running, t -> t.about(0, 8));
-    }
-
     private static void countsOfAll() {
         TurnTree t = running();
         Check.due("counts", View.ofAll(t), "counts 5 7 3 5 0 latest 3 32 10");
@@ -122,11 +92,6 @@ public final class AnswersTest {
         Check.due("dropped by all three", t.count(4), 1 + 1 + 4);
         Check.due("packets", t.count(1), 13);
         Check.due("open leaves", t.count(2), 1);
-    }
-
-    private static void countRefuses() {
-        Check.refused("count(-1)", Check.ARGUMENT, AnswersTest::running, t -> t.count(-1));
-        Check.refused("count(5)", Check.ARGUMENT, AnswersTest::running, t -> t.count(5));
     }
 
     private static void askingChangesNothing() {

@@ -1,4 +1,5 @@
 import java.util.function.Consumer;
+import java.util.function.ObjIntConsumer;
 import java.util.function.Supplier;
 
 /** What the tests share: answers that are due, and calls that must be refused and change nothing. */
@@ -49,6 +50,24 @@ final class Check {
         TurnTree touched = make.get();
         thrownBy(touched, run);
         due("all after " + call, View.ofAll(touched), View.ofAll(make.get()));
+        due("what follows on " + call, View.ofFuture(touched), View.ofFuture(make.get()));
+    }
+
+    /** The same for each of these arguments. */
+    static void refusedEach(String call, Class<?> want, Supplier<TurnTree> make,
+            ObjIntConsumer<TurnTree> run, int... arguments) {
+        for (int argument : arguments) {
+            refused(call + " with " + argument, want, make, t -> run.accept(t, argument));
+        }
+    }
+
+    /** The call throws nothing, for each of these arguments, each on an object of its own. */
+    static void allowedEach(String call, Supplier<TurnTree> make, ObjIntConsumer<TurnTree> run,
+            int... arguments) {
+        for (int argument : arguments) {
+            due(call + " with " + argument + " throws",
+                    thrownBy(make.get(), t -> run.accept(t, argument)), "nothing");
+        }
     }
 
     /** The simple name of what the call throws, or "nothing". */

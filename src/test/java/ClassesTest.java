@@ -6,19 +6,14 @@ public final class ClassesTest {
         newObject();
         addAnswersTheLeastFreeNumber();
         addKeepsWhatTheParentHas();
-        addRefuses();
-        addRefusesThe65thClass();
         removeTakesALeafAway();
-        removeRefuses();
         removedNumbersBeginAnew();
         weightChangesTheTag();
-        weightRefuses();
         moveTakesAllUnderIt();
         moveSetsTheTag();
         moveOpensAndCloses();
         moveToTheSameParent();
         moveBelowAnOpenClass();
-        moveRefuses();
         Check.end();
     }
 
@@ -32,15 +27,6 @@ public final class ClassesTest {
         t.putAll(2, 100, 500, 3);
         t.put(4, 7, 64);
         t.turn();
-        return t;
-    }
-
-    private static TurnTree full() {
-        TurnTree t = new TurnTree();
-        for (int i = 1; i < 64; i++) {
-            t.add(i / 2, 1, 1);
-        }
-        t.put(63, 1, 1);
         return t;
     }
 
@@ -80,25 +66,6 @@ public final class ClassesTest {
         Check.due("put in what is a leaf again", t.putAll(1, 1, 1, 10), 6);
     }
 
-    private static void addRefuses() {
-        Check.refused("add under -1", Check.INDEX, ClassesTest::small, t -> t.add(-1, 0, 0));
-        Check.refused("add under 5", Check.INDEX, ClassesTest::small, t -> t.add(5, 1, 1));
-        Check.refused("add under 64", Check.INDEX, ClassesTest::small, t -> t.add(64, 1, 1));
-        Check.refused("add weight 0", Check.ARGUMENT, ClassesTest::small, t -> t.add(0, 0, 1));
-        Check.refused("add weight 1001", Check.ARGUMENT, ClassesTest::small, t -> t.add(0, 1001, 1));
-        Check.refused("add limit 0", Check.ARGUMENT, ClassesTest::small, t -> t.add(0, 1, 0));
-        Check.refused("add limit 2001", Check.ARGUMENT, ClassesTest::small, t -> t.add(2, 1, 2001));
-        Check.refused("add under packets", Check.STATE, ClassesTest::small, t -> t.add(2, 1, 1));
-    }
-
-    private static void addRefusesThe65thClass() {
-        Check.due("count(0) of a full tree", full().count(0), 64);
-        Check.refused("65th class", Check.UNSUPPORTED, ClassesTest::full, t -> t.add(0, 1, 1));
-        Check.refused("65th class, no parent", Check.INDEX, ClassesTest::full, t -> t.add(64, 1, 1));
-        Check.refused("65th class, no weight", Check.ARGUMENT, ClassesTest::full, t -> t.add(63, 0, 1));
-        Check.refused("65th class, packets", Check.STATE, ClassesTest::full, t -> t.add(63, 1, 1));
-    }
-
     private static void removeTakesALeafAway() {
         TurnTree t = small();
         t.remove(3);
@@ -112,16 +79,6 @@ public final class ClassesTest {
         t.remove(1);
         Check.due("child(0, 0)", t.child(0, 0), 4);
         Check.due("about(0, 3)", t.about(0, 3), 1);
-    }
-
-    private static void removeRefuses() {
-        Check.refused("remove(-1)", Check.INDEX, ClassesTest::small, t -> t.remove(-1));
-        Check.refused("remove(5)", Check.INDEX, ClassesTest::small, t -> t.remove(5));
-        Check.refused("remove(64)", Check.INDEX, ClassesTest::small, t -> t.remove(64));
-        Check.refused("remove the root", Check.STATE, ClassesTest::small, t -> t.remove(0));
-        Check.refused("remove a lone root", Check.STATE, TurnTree::new, t -> t.remove(0));
-        Check.refused("remove no leaf", Check.STATE, ClassesTest::small, t -> t.remove(1));
-        Check.refused("remove with packets", Check.STATE, ClassesTest::small, t -> t.remove(2));
     }
 
     private static void removedNumbersBeginAnew() {
@@ -155,16 +112,6 @@ public final class ClassesTest {
         t.weight(1, 1);
         t.turn();
         Check.due("tag by weight 1", t.sum(1, 0), 21845 + 65 + UNIT);
-    }
-
-    private static void weightRefuses() {
-        Check.refused("weight(0, 1)", Check.INDEX, ClassesTest::small, t -> t.weight(0, 1));
-        Check.refused("weight(0, 0)", Check.INDEX, ClassesTest::small, t -> t.weight(0, 0));
-        Check.refused("weight(-1, 1)", Check.INDEX, ClassesTest::small, t -> t.weight(-1, 1));
-        Check.refused("weight(5, 0)", Check.INDEX, ClassesTest::small, t -> t.weight(5, 0));
-        Check.refused("weight(64, 1)", Check.INDEX, ClassesTest::small, t -> t.weight(64, 1));
-        Check.refused("weight(1, 0)", Check.ARGUMENT, ClassesTest::small, t -> t.weight(1, 0));
-        Check.refused("weight(1, 1001)", Check.ARGUMENT, ClassesTest::small, t -> t.weight(1, 1001));
     }
 
     private static void moveTakesAllUnderIt() {
@@ -254,20 +201,5 @@ public final class ClassesTest {
         Check.due("turns", t.turns(9), 3);
         Check.due("time of 3", t.sum(3, 1), 20 * UNIT);
         Check.due("time of 2", t.sum(2, 1), 10 * UNIT);
-    }
-
-    private static void moveRefuses() {
-        Check.refused("move(0, 1)", Check.INDEX, ClassesTest::small, t -> t.move(0, 1));
-        Check.refused("move(0, 0)", Check.INDEX, ClassesTest::small, t -> t.move(0, 0));
-        Check.refused("move(-1, 0)", Check.INDEX, ClassesTest::small, t -> t.move(-1, 0));
-        Check.refused("move(5, 5)", Check.INDEX, ClassesTest::small, t -> t.move(5, 5));
-        Check.refused("move(64, 2)", Check.INDEX, ClassesTest::small, t -> t.move(64, 2));
-        Check.refused("move(1, -1)", Check.INDEX, ClassesTest::small, t -> t.move(1, -1));
-        Check.refused("move(1, 5)", Check.INDEX, ClassesTest::small, t -> t.move(1, 5));
-        Check.refused("move(1, 1)", Check.ARGUMENT, ClassesTest::small, t -> t.move(1, 1));
-        Check.refused("move(1, 3)", Check.ARGUMENT, ClassesTest::small, t -> t.move(1, 3));
-        Check.refused("move below packets of its own", Check.ARGUMENT, ClassesTest::small, t -> t.move(1, 2));
-        Check.refused("move itself with packets", Check.ARGUMENT, ClassesTest::small, t -> t.move(2, 2));
-        Check.refused("move below packets", Check.STATE, ClassesTest::small, t -> t.move(4, 2));
     }
 }

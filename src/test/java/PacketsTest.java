@@ -3,18 +3,13 @@ public final class PacketsTest {
     public static void main(String[] args) {
         putFillsALeaf();
         putOpensTheWayToTheRoot();
-        putRefuses();
-        putRefusesThe2001stPacket();
         putAllStopsAtTheLimit();
         putAllStopsAt2000();
         putAllEdges();
-        putAllRefuses();
         clearDropsAllUnderAClass();
         clearKeepsTheTags();
-        clearRefuses();
         packetsAreFirstInFirstOut();
         packetsComeAfterOthersHaveGone();
-        packetRefuses();
         Check.end();
     }
 
@@ -25,18 +20,6 @@ public final class PacketsTest {
         t.add(1, 2, 2);
         t.add(1, 5, 9);
         t.putAll(3, 30, 20, 2);
-        return t;
-    }
-
-    /** 2000 packets: the leaf 1 is full, the leaf 2 is not. */
-    private static TurnTree crowded() {
-        TurnTree t = new TurnTree();
-        t.add(0, 1, 1000);
-        t.add(0, 1, 2000);
-        t.putAll(1, 0, 1, 500);
-        t.putAll(1, 500, 1, 500);
-        t.putAll(2, 0, 2000, 500);
-        t.putAll(2, 500, 2000, 500);
         return t;
     }
 
@@ -72,29 +55,6 @@ public final class PacketsTest {
         Check.due("tag of 2 stays", t.sum(2, 0), 0);
     }
 
-    private static void putRefuses() {
-        Check.refused("put(-1, ..)", Check.INDEX, PacketsTest::small, t -> t.put(-1, 1, 1));
-        Check.refused("put(4, ..)", Check.INDEX, PacketsTest::small, t -> t.put(4, 1, 0));
-        Check.refused("put(64, ..)", Check.INDEX, PacketsTest::small, t -> t.put(64, 1, 1));
-        Check.refused("put in the root", Check.STATE, PacketsTest::small, t -> t.put(0, 1, 0));
-        Check.refused("put in a lone root", Check.STATE, TurnTree::new, t -> t.put(0, 1, 1));
-        Check.refused("put in no leaf", Check.STATE, PacketsTest::small, t -> t.put(1, 1, 2001));
-        Check.refused("put length 0", Check.ARGUMENT, PacketsTest::small, t -> t.put(2, 1, 0));
-        Check.refused("put length -1", Check.ARGUMENT, PacketsTest::small, t -> t.put(2, 1, -1));
-        Check.refused("put length 2001", Check.ARGUMENT, PacketsTest::small, t -> t.put(2, 1, 2001));
-    }
-
-    private static void putRefusesThe2001stPacket() {
-        Check.due("packets", crowded().count(1), 2000);
-        Check.refused("2001st", Check.UNSUPPORTED, PacketsTest::crowded, t -> t.put(2, 1, 1));
-        Check.refused("2001st, full leaf", Check.UNSUPPORTED, PacketsTest::crowded, t -> t.put(1, 1, 1));
-        Check.refused("2001st, no length", Check.ARGUMENT, PacketsTest::crowded, t -> t.put(2, 1, 0));
-        Check.refused("2001st, no leaf", Check.STATE, PacketsTest::crowded, t -> t.put(0, 1, 1));
-        TurnTree t = crowded();
-        t.turn();
-        Check.due("the 2000th again", t.put(2, 1, 1), true);
-    }
-
     private static void putAllStopsAtTheLimit() {
         TurnTree t = small();
         Check.due("putAll", t.putAll(2, Integer.MAX_VALUE, 3, 5), 2);
@@ -110,7 +70,7 @@ public final class PacketsTest {
     }
 
     private static void putAllStopsAt2000() {
-        TurnTree t = crowded();
+        TurnTree t = Sample.crowded();
         Check.due("putAll at 2000", t.putAll(2, 1, 1, 1), 0);
         Check.due("putAll in a full leaf at 2000", t.putAll(1, 1, 1, 3), 0);
         Check.due("none is dropped", t.count(4), 0);
@@ -133,17 +93,6 @@ public final class PacketsTest {
         Check.due("n = 500", t.putAll(4, 1, 2000, 500), 500);
         Check.due("bytes", t.sum(4, 3), 1000000);
         Check.due("the last id", t.packet(4, 499), 500);
-    }
-
-    private static void putAllRefuses() {
-        Check.refused("putAll(-1, ..)", Check.INDEX, PacketsTest::small, t -> t.putAll(-1, 1, 1, 1));
-        Check.refused("putAll(4, ..)", Check.INDEX, PacketsTest::small, t -> t.putAll(4, 1, 0, 501));
-        Check.refused("putAll in the root", Check.STATE, PacketsTest::small, t -> t.putAll(0, 1, 1, 1));
-        Check.refused("putAll in no leaf", Check.STATE, PacketsTest::small, t -> t.putAll(1, 1, 0, -1));
-        Check.refused("putAll length 0", Check.ARGUMENT, PacketsTest::small, t -> t.putAll(2, 1, 0, 0));
-        Check.refused("putAll length 2001", Check.ARGUMENT, PacketsTest::small, t -> t.putAll(2, 1, 2001, 1));
-        Check.refused("putAll n = -1", Check.ARGUMENT, PacketsTest::small, t -> t.putAll(2, 1, 1, -1));
-        Check.refused("putAll n = 501", Check.ARGUMENT, PacketsTest::crowded, t -> t.putAll(2, 1, 1, 501));
     }
 
     private static void clearDropsAllUnderAClass() {
@@ -181,12 +130,6 @@ public final class PacketsTest {
         Check.due("class 1", View.ofClass(t, 1),
                 "about 0 3 2 2 0 0 0 10 sums 436906 0 20 0 children 2 3 packets");
         Check.due("all", View.ofAll(t), "counts 4 0 0 1 1 latest 3 30 20");
-    }
-
-    private static void clearRefuses() {
-        Check.refused("clear(-1)", Check.INDEX, PacketsTest::small, t -> t.clear(-1));
-        Check.refused("clear(4)", Check.INDEX, PacketsTest::small, t -> t.clear(4));
-        Check.refused("clear(64)", Check.INDEX, PacketsTest::small, t -> t.clear(64));
     }
 
     private static void packetsAreFirstInFirstOut() {
@@ -230,16 +173,5 @@ public final class PacketsTest {
         Check.due("packet(1, 0)", t.packet(1, 0), 60);
         Check.due("packets", t.count(1), 1);
         Check.due("turns", t.turns(20), 1);
-    }
-
-    private static void packetRefuses() {
-        Check.refused("packet(-1, 0)", Check.INDEX, PacketsTest::small, t -> t.packet(-1, 0));
-        Check.refused("packet(4, 0)", Check.INDEX, PacketsTest::small, t -> t.packet(4, 0));
-        Check.refused("packet(64, 0)", Check.INDEX, PacketsTest::small, t -> t.packet(64, 0));
-        Check.refused("packet(3, -1)", Check.INDEX, PacketsTest::small, t -> t.packet(3, -1));
-        Check.refused("packet(3, 2)", Check.INDEX, PacketsTest::small, t -> t.packet(3, 2));
-        Check.refused("packet(2, 0)", Check.INDEX, PacketsTest::small, t -> t.packet(2, 0));
-        Check.refused("packet of no leaf", Check.INDEX, PacketsTest::small, t -> t.packet(1, 0));
-        Check.refused("packet of the root", Check.INDEX, PacketsTest::small, t -> t.packet(0, 0));
     }
 }

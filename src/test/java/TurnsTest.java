@@ -14,9 +14,7 @@ public final class TurnsTest {
         openingKeepsAGreaterTag();
         openingKeepsAnEqualTagAndItsRest();
         turnsStopsWhenNoneIsOpen();
-        turnsRefuses();
         latestTellsTheLatestTurn();
-        latestRefuses();
         holdCountsTurns();
         holdOfAllStopsTheTurns();
         holdEndsAndSetsTheTag();
@@ -24,7 +22,6 @@ public final class TurnsTest {
         holdOnTwoLevels();
         holdIsSetAnew();
         holdGoesAlong();
-        holdRefuses();
         Check.end();
     }
 
@@ -205,11 +202,6 @@ public final class TurnsTest {
         Check.due("turns(1000) of 1500", full.turns(1000), 1000);
     }
 
-    private static void turnsRefuses() {
-        Check.refused("turns(-1)", Check.ARGUMENT, TurnsTest::running, t -> t.turns(-1));
-        Check.refused("turns(1001)", Check.ARGUMENT, TurnsTest::running, t -> t.turns(1001));
-    }
-
     private static void latestTellsTheLatestTurn() {
         TurnTree t = new TurnTree();
         Check.due("leaf at first", t.latest(0), TurnTree.NONE);
@@ -225,11 +217,6 @@ public final class TurnsTest {
         Check.due("leaf", t.latest(0), 1);
         Check.due("id", t.latest(1), -7);
         Check.due("length", t.latest(2), 50);
-    }
-
-    private static void latestRefuses() {
-        Check.refused("latest(-1)", Check.ARGUMENT, TurnsTest::running, t -> t.latest(-1));
-        Check.refused("latest(3)", Check.ARGUMENT, TurnsTest::running, t -> t.latest(3));
     }
 
     private static void holdCountsTurns() {
@@ -344,15 +331,5 @@ public final class TurnsTest {
         t.turns(4);
         Check.due("3 is open", t.about(3, 5), 1);
         Check.due("tag of 3", t.sum(3, 0), t.sum(0, 1));
-    }
-
-    private static void holdRefuses() {
-        Check.refused("hold(0, 1)", Check.INDEX, TurnsTest::running, t -> t.hold(0, 1));
-        Check.refused("hold(0, -1)", Check.INDEX, TurnsTest::running, t -> t.hold(0, -1));
-        Check.refused("hold(-1, 1)", Check.INDEX, TurnsTest::running, t -> t.hold(-1, 1));
-        Check.refused("hold(3, 1001)", Check.INDEX, TurnsTest::running, t -> t.hold(3, 1001));
-        Check.refused("hold(64, 1)", Check.INDEX, TurnsTest::running, t -> t.hold(64, 1));
-        Check.refused("hold(1, -1)", Check.ARGUMENT, TurnsTest::running, t -> t.hold(1, -1));
-        Check.refused("hold(1, 1001)", Check.ARGUMENT, TurnsTest::running, t -> t.hold(1, 1001));
     }
 }

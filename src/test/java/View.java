@@ -1,6 +1,8 @@
 /** All that an object tells, as a text. */
 final class View {
     private static final int MOST_PACKETS_ASKED = 50;
+    private static final int TURNS_ASKED = 80;
+    private static final int ADDS_ASKED = 65;
 
     private View() {
     }
@@ -15,6 +17,22 @@ final class View {
             text.append(' ').append(tree.latest(what));
         }
         return text.toString();
+    }
+
+    /** What comes of the object when it is used on; this changes it. */
+    static String ofFuture(TurnTree tree) {
+        StringBuilder text = new StringBuilder("turns");
+        for (int i = 0; i < TURNS_ASKED; i++) {
+            text.append(' ').append(tree.turn());
+            for (int what = 0; what <= 2; what++) {
+                text.append(' ').append(tree.latest(what));
+            }
+        }
+        text.append(" added");
+        for (int i = 0; i < ADDS_ASKED; i++) {
+            text.append(' ').append(Check.thrownBy(tree, t -> t.add(0, 1, 1)));
+        }
+        return text.append(' ').append(ofAll(tree)).toString();
     }
 
     static String ofClass(TurnTree tree, int c) {
