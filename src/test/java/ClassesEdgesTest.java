@@ -24,6 +24,7 @@ public final class ClassesEdgesTest {
         moveUnderItselfOrUnderWhatIsUnderIt();
         moveUnderALeafWithPackets();
         moveWithAllUnderIt();
+        moveTheLastOpenChildAway();
         moveInADeepTree();
         moveThrowsTheOneNamedFirst();
         Check.end();
@@ -288,6 +289,30 @@ public final class ClassesEdgesTest {
         held.move(5, 3);
         Check.due("a held class stays held", held.about(5, 6), 28);
         Check.due("and opens nothing", held.about(3, 5), 0);
+    }
+
+    /** An open class must be among the children: of two open ones one may go, not the other as well. */
+    private static void moveTheLastOpenChildAway() {
+        TurnTree t = Sample.leaves(1, 1);
+        for (int c = 3; c <= 5; c++) {
+            t.add(1, 1, 9);
+        }
+        t.put(3, 1, 1);
+        t.put(4, 1, 1);
+        t.move(3, 2);
+        Check.due("one open child is left", t.about(1, 5), 1);
+        Check.due("the new parent is open", t.about(2, 5), 1);
+        t.move(4, 2);
+        Check.due("an empty child alone is left", t.about(1, 5), 0);
+        t.move(4, 1);
+        Check.due("the open one is back", t.about(1, 5), 1);
+        Check.due("one is still there", t.about(2, 5), 1);
+        t.hold(4, 1);
+        t.move(4, 2);
+        t.move(5, 2);
+        Check.due("a leaf without packets", t.about(1, 5), 0);
+        Check.due("turns", t.turns(9), 2);
+        Check.due("closed", t.about(2, 5), 0);
     }
 
     /** 63 classes under one another are as deep as a tree can be. */
