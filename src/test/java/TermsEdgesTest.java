@@ -1,3 +1,7 @@
+import java.util.List;
+import java.util.function.Consumer;
+import java.util.function.Supplier;
+
 /** The edges that "Terms" names, sentence by sentence, and promise 1; each on both of its sides. */
 public final class TermsEdgesTest {
     private static final int UNIT = 65536;
@@ -36,6 +40,7 @@ public final class TermsEdgesTest {
         roundedDown();
         theRootGetsNoTag();
         behindThatTurnItIsHeldNoMore();
+        callsThatThrowChangeNothing();
         the512thCall();
         Check.end();
     }
@@ -531,6 +536,32 @@ public final class TermsEdgesTest {
             t.turn();
             Check.due("its turn", t.latest(0), 1);
         }
+    }
+
+    /** "A call that throws changes nothing.": nor do many of them, one behind another. */
+    private static void callsThatThrowChangeNothing() {
+        Supplier<TurnTree> touched = () -> {
+            TurnTree t = Sample.busy();
+            List<Consumer<TurnTree>> calls = List.of(
+                    x -> x.add(6, 1, 1), x -> x.add(0, 1001, 1), x -> x.add(0, 1, 2001), x -> x.add(2, 1, 1),
+                    x -> x.remove(6), x -> x.remove(1), x -> x.remove(2), x -> x.weight(0, 1),
+                    x -> x.weight(2, 0), x -> x.move(0, 1), x -> x.move(2, 6), x -> x.move(1, 3),
+                    x -> x.move(3, 2), x -> x.put(6, 1, 1), x -> x.put(1, 1, 1), x -> x.put(2, 1, 2001),
+                    x -> x.putAll(6, 1, 1, 1), x -> x.putAll(1, 1, 1, 1), x -> x.putAll(2, 1, 0, 1),
+                    x -> x.putAll(2, 1, 1, 501), x -> x.turns(1001), x -> x.turns(-1), x -> x.latest(3),
+                    x -> x.clear(6), x -> x.hold(0, 1), x -> x.hold(5, 1001), x -> x.hold(5, -1),
+                    x -> x.child(0, 3), x -> x.packet(2, 2), x -> x.sum(0, 4), x -> x.about(0, 8),
+                    x -> x.count(5));
+            for (int i = 0; i < calls.size(); i++) {
+                Check.due("call " + i + " throws", Check.thrownBy(t, calls.get(i)).equals("nothing"), false);
+            }
+            return t;
+        };
+        for (int c = 0; c < 64; c++) {
+            Check.due("class " + c, View.ofClass(touched.get(), c), View.ofClass(Sample.busy(), c));
+        }
+        Check.due("all", View.ofAll(touched.get()), View.ofAll(Sample.busy()));
+        Check.due("what follows", View.ofFuture(touched.get()), View.ofFuture(Sample.busy()));
     }
 
     /** "An object is used for at most 512 calls after it has been made": the last of them is answered too. */
