@@ -9,7 +9,7 @@ import java.util.TreeMap;
  * The document once more, as near to its words as can be: nothing about openness, load or bytes is
  * kept, all is worked out anew from the packets whenever it is asked.
  */
-final class PlainTree {
+final class PlainTree implements Answers {
     private static final class Packet {
         final int id;
         final int length;
@@ -30,6 +30,20 @@ final class PlainTree {
         long time;
         long share;
         final List<Packet> packets = new ArrayList<>();
+
+        Clazz copy() {
+            Clazz made = new Clazz();
+            made.parent = parent;
+            made.weight = weight;
+            made.limit = limit;
+            made.held = held;
+            made.tag = tag;
+            made.rest = rest;
+            made.time = time;
+            made.share = share;
+            made.packets.addAll(packets);
+            return made;
+        }
     }
 
     private final TreeMap<Integer, Clazz> classes = new TreeMap<>();
@@ -41,6 +55,18 @@ final class PlainTree {
         Clazz root = new Clazz();
         root.parent = -1;
         classes.put(0, root);
+    }
+
+    /** Another one in the same state, which goes its own way from here. */
+    PlainTree copy() {
+        PlainTree made = new PlainTree();
+        for (int c : classes.keySet()) {
+            made.classes.put(c, classes.get(c).copy());
+        }
+        made.turns = turns;
+        made.dropped = dropped;
+        made.latest = latest;
+        return made;
     }
 
     int add(int parent, int weight, int limit) {
@@ -169,7 +195,8 @@ final class PlainTree {
         return n;
     }
 
-    int latest(int what) {
+    @Override
+    public int latest(int what) {
         argument(what >= 0 && what <= 2);
         return latest[what];
     }
@@ -194,14 +221,16 @@ final class PlainTree {
         opened(before);
     }
 
-    int child(int c, int k) {
+    @Override
+    public int child(int c, int k) {
         need(c);
         List<Integer> sorted = children(c);
         sorted.sort(Comparator.comparingLong((Integer n) -> classes.get(n).tag).thenComparingInt(n -> n));
         return sorted.get(k);
     }
 
-    int packet(int c, int k) {
+    @Override
+    public int packet(int c, int k) {
         need(c);
         if (!isLeaf(c)) {
             throw new IndexOutOfBoundsException();
@@ -209,14 +238,16 @@ final class PlainTree {
         return classes.get(c).packets.get(k).id;
     }
 
-    long sum(int c, int what) {
+    @Override
+    public long sum(int c, int what) {
         need(c);
         argument(what >= 0 && what <= 3);
         Clazz one = classes.get(c);
         return new long[] {one.tag, one.time, one.share, bytes(c)}[what];
     }
 
-    int about(int c, int what) {
+    @Override
+    public int about(int c, int what) {
         need(c);
         argument(what >= 0 && what <= 7);
         Clazz one = classes.get(c);
@@ -224,7 +255,8 @@ final class PlainTree {
             isOpen(c) ? 1 : 0, one.held, one.limit}[what];
     }
 
-    int count(int what) {
+    @Override
+    public int count(int what) {
         argument(what >= 0 && what <= 4);
         int openLeaves = 0;
         for (int c : classes.keySet()) {

@@ -8,6 +8,10 @@ final class View {
     }
 
     static String ofAll(TurnTree tree) {
+        return ofAll(Answers.of(tree));
+    }
+
+    static String ofAll(Answers tree) {
         StringBuilder text = new StringBuilder("counts");
         for (int what = 0; what <= 4; what++) {
             text.append(' ').append(tree.count(what));
@@ -36,6 +40,10 @@ final class View {
     }
 
     static String ofClass(TurnTree tree, int c) {
+        return ofClass(Answers.of(tree), c);
+    }
+
+    static String ofClass(Answers tree, int c) {
         StringBuilder text = new StringBuilder();
         try {
             text.append("about");
